@@ -1,6 +1,7 @@
-import java.util.ArrayList;
 import java.util.List;
 import java.util.Objects;
+import java.util.Set;
+import java.util.TreeSet;
 
 /** What all tests share: counting, and what an object answers to everything it can be asked. */
 final class Checks {
@@ -14,11 +15,23 @@ final class Checks {
         Object of(InodeCouncil x);
     }
 
-    // An object is used for 512 calls; scenes leave room for this many questions.
-    private static final int ASKS_AN_OBJECT = 200;
-    private static final List<Ask> QUESTIONS = questions();
-    private static final List<Ask> LAST_QUESTIONS = lastQuestions();
+    /** A call with a number that is tried, with its answer. */
+    interface NumberAsk {
+        Object of(InodeCouncil x, int number);
+    }
 
+    /** The answer that is due for a number that is tried. */
+    interface Want {
+        Object of(int number);
+    }
+
+    // Far beyond every bound, and where a product or a shift of 32 bits wraps around to 0.
+    private static final int[] FAR = {Integer.MIN_VALUE, -(1 << 28), -(1 << 16), 1 << 16, 1 << 28,
+        1 << 30, Integer.MAX_VALUE};
+
+    // Refused calls come one after the other at the same scene, whose portrait serves them all.
+    private static Scene portrayed = null;
+    private static List<String> portrait = List.of();
     private static int held = 0;
     private static int broken = 0;
 
@@ -44,6 +57,28 @@ final class Checks {
     static void refuses(String what, Class<? extends RuntimeException> want, Scene scene, Ask call) {
         due(what, answer(made(scene), call), want.getName());
         due(what + " then changed", changed(scene, call), "nothing");
+    }
+
+    /**
+     * The call must answer as due to the least and the most number and those beside them, and
+     * refuse, without a change, the next ones beyond and those far beyond. There is no number that
+     * is allowed if the most is less than the least.
+     */
+    static void bounds(String what, Class<? extends RuntimeException> beyond, int least, int most,
+            Scene scene, NumberAsk call, Want want) {
+        for (int number : new TreeSet<>(List.of(least, least + 1, most - 1, most))) {
+            if (number >= least && number <= most) {
+                due(what + " " + number, answer(made(scene), x -> call.of(x, number)),
+                        want.of(number));
+            }
+        }
+        Set<Integer> outside = new TreeSet<>(List.of(least - 1, most + 1));
+        for (int number : FAR) {
+            outside.add(number);
+        }
+        for (int number : outside) {
+            refuses(what + " " + number, beyond, scene, x -> call.of(x, number));
+        }
     }
 
     /** The call must change nothing. */
@@ -74,80 +109,24 @@ final class Checks {
         }
     }
 
+    static boolean thrown(Object answer) {
+        return answer instanceof String name && name.endsWith("Exception");
+    }
+
     private static String changed(Scene scene, Ask call) {
-        List<Object> before = portrait(scene);
-        List<Object> after = portrait(x -> {
+        if (scene != portrayed) {
+            portrait = Portrait.of(scene);
+            portrayed = scene;
+        }
+        List<String> after = Portrait.of(x -> {
             scene.play(x);
             answer(x, call);
         });
-        for (int i = 0; i < before.size(); i++) {
-            if (!Objects.equals(before.get(i), after.get(i))) {
-                return "question " + i + " from " + before.get(i) + " to " + after.get(i);
+        for (int i = 0; i < Math.min(portrait.size(), after.size()); i++) {
+            if (!portrait.get(i).equals(after.get(i))) {
+                return "from " + portrait.get(i) + " to " + after.get(i);
             }
         }
-        return "nothing";
-    }
-
-    private static List<Object> portrait(Scene scene) {
-        List<Object> answers = new ArrayList<>();
-        for (int from = 0; from < QUESTIONS.size(); from += ASKS_AN_OBJECT) {
-            InodeCouncil x = made(scene);
-            for (Ask ask : QUESTIONS.subList(from, Math.min(QUESTIONS.size(), from + ASKS_AN_OBJECT))) {
-                answers.add(answer(x, ask));
-            }
-        }
-        for (Ask ask : LAST_QUESTIONS) {
-            answers.add(answer(made(scene), ask));
-        }
-        return answers;
-    }
-
-    /** Questions that change nothing. */
-    private static List<Ask> questions() {
-        List<Ask> asks = new ArrayList<>(List.of(x -> x.fileCount(), x -> x.free(), x -> x.day(),
-                x -> x.journalSize(), x -> x.nextToDrop(), x -> x.nextEnd(), x -> x.meanUsers(),
-                x -> x.heldShare(), x -> x.isConsistent()));
-        for (int n = 0; n < 40; n++) {
-            int k = n;
-            asks.addAll(List.of(x -> x.doesExist(k), x -> x.linksOf(k), x -> x.blocksOf(k),
-                    x -> x.holdsOn(k), x -> x.usedBy(k), x -> x.promisedTo(k), x -> x.isKept(k),
-                    x -> x.isOpen(k), x -> x.entryKind(k), x -> x.lineAt(k)));
-            for (int place = 0; place < 16; place++) {
-                int p = place;
-                asks.add(x -> x.blockAt(k % 8, p));
-                asks.add(x -> x.read(k % 8, p));
-                asks.add(x -> x.readFrom(k, p % 4, p / 4));
-            }
-        }
-        for (int block = 0; block < 64; block++) {
-            int b = block;
-            asks.add(x -> x.usersOf(b));
-            asks.add(x -> x.usersByWalk(b));
-        }
-        return asks;
-    }
-
-    /** Questions that change the object: each is put to an object of its own. */
-    private static List<Ask> lastQuestions() {
-        List<Ask> asks = new ArrayList<>(List.of(x -> x.addOwner(1), x -> x.createFile(0),
-                x -> x.takeSnapshot(9), x -> x.openHold(0, 1), x -> x.pass(99), x -> x.pass(1),
-                x -> x.begin(), x -> x.commit(), x -> x.crash()));
-        asks.add(x -> x.crash() + ":" + x.journalSize() + ":" + x.fileCount() + ":" + x.free());
-        for (int n = 0; n < 8; n++) {
-            int k = n;
-            asks.addAll(List.of(x -> x.link(k), x -> x.unlink(k), x -> x.giveBack(k),
-                    x -> x.restore(0, k), x -> x.release(k), x -> x.thin(k), x -> written(x, k)));
-        }
-        return asks;
-    }
-
-    /** How many blocks a file may still take tells quotas and what is free for its owner. */
-    private static String written(InodeCouncil x, int file) {
-        StringBuilder blocks = new StringBuilder();
-        for (int place = 0; place < 16; place++) {
-            int p = place;
-            blocks.append(answer(x, y -> y.write(file, p, 1))).append(' ');
-        }
-        return blocks.toString();
+        return portrait.size() == after.size() ? "nothing" : "how much there is to ask";
     }
 }

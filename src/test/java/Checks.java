@@ -61,7 +61,7 @@ final class Checks {
 
     /**
      * The call must answer as due to the least and the most number and those beside them, and
-     * refuse, without a change, the next ones beyond and those far beyond. There is no number that
+     * refuse, without a change, the next two beyond and those far beyond. There is no number that
      * is allowed if the most is less than the least.
      */
     static void bounds(String what, Class<? extends RuntimeException> beyond, int least, int most,
@@ -72,7 +72,7 @@ final class Checks {
                         want.of(number));
             }
         }
-        Set<Integer> outside = new TreeSet<>(List.of(least - 1, most + 1));
+        Set<Integer> outside = new TreeSet<>(List.of(least - 2, least - 1, most + 1, most + 2));
         for (int number : FAR) {
             outside.add(number);
         }

@@ -439,6 +439,17 @@ public final class SnapshotsEdgesTest {
         other.createFile(1);
         Scenes.fill(other, 2, 3);
         Checks.due("P26 another owner's file", other.restore(0, 0), 3);
+        InodeCouncil later = new InodeCouncil();
+        later.addOwner(64);
+        later.createFile(0);
+        Scenes.fill(later, 0, 16);
+        later.addOwner(1);
+        later.createFile(1);
+        later.write(1, 0, 1);
+        later.takeSnapshot(0);
+        later.punch(1, 0);
+        Checks.due("P26 another owner's file that has the first blocks", later.restore(0, 1), 1);
+        Checks.due("P26 another owner's file, used", later.usedBy(1), 1);
         InodeCouncil promised = Checks.made(quotaOf3(3, 0));
         promised.promise(0, 61);
         Checks.due("P26 promised blocks", promised.restore(0, 0), 3);

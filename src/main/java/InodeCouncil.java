@@ -667,7 +667,9 @@ public final class InodeCouncil {
             files = other.files;
             System.arraycopy(other.ownerOfFile, 0, ownerOfFile, 0, FILES);
             System.arraycopy(other.links, 0, links, 0, FILES);
-            System.arraycopy(other.alive, 0, alive, 0, FILES);
+            for (int file = 0; file < FILES; file++) {
+                alive[file] = other.alive[file];
+            }
             System.arraycopy(other.cells, 0, cells, 0, CELLS);
             System.arraycopy(other.values, 0, values, 0, BLOCKS);
             System.arraycopy(other.users, 0, users, 0, BLOCKS);
